@@ -192,7 +192,7 @@ public final class RunTest {
         for (int x : numbers) {
             for (int y : numbers) {
                 ReportCompiler r = atLevel(level);
-                // A comparison before it leaves each indicator on that may have to go off.
+                // All three are on before, so that a comparison that only turns on is seen.
                 Report.line(r, Report.CARD, Report.ALWAYS, Report.ON, 0);
                 Report.line(r, Report.CARD, Report.ALWAYS, Report.ON, 1);
                 Report.line(r, Report.CARD, Report.ALWAYS, Report.ON, 2);
