@@ -267,7 +267,8 @@ public final class ReportCompiler {
     }
 
     private void executeSection(int when) {
-        for (int place = sectionStart[when]; place < sectionEnd[when]; place++) {
+        int end = sectionEnd[when];
+        for (int place = sectionStart[when]; place < end; place++) {
             int i = code[place];
             // A report compiled whole has lines of every when in each section.
             if (lineWhen[i] == when && conditionHolds(lineCondition[i])) {

@@ -9,41 +9,28 @@ public final class LimitsTest {
         check.end();
     }
 
-    /** Brings work field w to the number high * 1000 + low, with four lines executed at the end. */
-    private static void load(ReportCompiler r, int w, int high, int low) {
-        Report.line(r, Report.END, Report.ALWAYS, Report.SET, w, Report.C, 0, high);
-        Report.line(r, Report.END, Report.ALWAYS, Report.MULTIPLY, w, w, Report.C, 500);
-        Report.line(r, Report.END, Report.ALWAYS, Report.ADD, w, w, w);
-        Report.line(r, Report.END, Report.ALWAYS, Report.ADD, w, w, Report.C, low);
-    }
-
     private static void largeNumbers(Check check) {
-        int[][] parts = {{999, 999}, {-999, -999}, {999, 998}, {500, 0}, {-500, 0}, {1, 0}, {46, 341},
-            {-65, -536}, {123, 456}, {0, 1}, {0, -1}, {0, 0}};
-        for (int[] a : parts) {
-            for (int[] b : parts) {
+        int[] numbers = {999999, -999999, 999998, 500000, -500000, 1000, 46341, -65536, 123456, 1, -1, 0};
+        for (int x : numbers) {
+            for (int y : numbers) {
                 for (int op = Report.SET; op <= Report.DIVIDE; op++) {
-                    largeNumbers(check, a, b, op);
+                    largeNumbers(check, op, x, y);
                 }
             }
         }
     }
 
-    private static void largeNumbers(Check check, int[] a, int[] b, int op) {
-        BigInteger x = BigInteger.valueOf(1000L * a[0] + a[1]);
-        BigInteger y = BigInteger.valueOf(1000L * b[0] + b[1]);
-        ReportCompiler r = new ReportCompiler();
-        load(r, 0, a[0], a[1]);
-        load(r, 1, b[0], b[1]);
-        Report.line(r, Report.END, Report.ALWAYS, op, 2, 0, 1);
+    private static void largeNumbers(Check check, int op, int x, int y) {
+        ReportCompiler r = Report.calculated(1, op, 2, x, y);
+        long want = exact(op, BigInteger.valueOf(x), BigInteger.valueOf(y))
+                .remainder(BigInteger.valueOf(1000000)).longValueExact();
+        check.due("the first number", r.work(0), x);
+        check.due("the second number", r.work(1), y);
+        check.due("op " + op + " of " + x + " and " + y, r.work(2), want);
+        check.due("indicator(3)", r.indicator(3), op == Report.DIVIDE && y == 0);
         Report.print(r, Report.END, 2);
         r.run();
-        long want = exact(op, x, y).remainder(BigInteger.valueOf(1000000)).longValueExact();
-        check.due("the first number", r.work(0), x.longValueExact());
-        check.due("the second number", r.work(1), y.longValueExact());
-        check.due("op " + op + " of " + x + " and " + y, r.work(2), want);
         check.due("PRINT of " + want, Report.shown(r), want + " ");
-        check.due("indicator(3)", r.indicator(3), op == Report.DIVIDE && y.signum() == 0);
     }
 
     private static BigInteger exact(int op, BigInteger x, BigInteger y) {

@@ -29,6 +29,15 @@ final class Report {
     private Report() {
     }
 
+    /** The lowest and the highest number that a work field can have, and those around 0. */
+    static final int[] WORK_EDGES = {-999999, -999998, -1, 0, 1, 999998, 999999};
+
+    static ReportCompiler atLevel(int level) {
+        ReportCompiler r = new ReportCompiler();
+        r.level(level);
+        return r;
+    }
+
     /** Adds a line with its operands; a refusal here is a fault of the test or of the program. */
     static void line(ReportCompiler r, int when, int condition, int op, int w, int... operands) {
         int lines = r.line(when, condition, op, w);
@@ -46,6 +55,24 @@ final class Report {
 
     static void printConstant(ReportCompiler r, int when, int condition, int c) {
         line(r, when, condition, PRINT, 0, C, 0, c);
+    }
+
+    /** Brings work field w to any number that it can have, with four lines. */
+    static void load(ReportCompiler r, int when, int w, int number) {
+        line(r, when, ALWAYS, SET, w, C, 0, number / 1000);
+        line(r, when, ALWAYS, MULTIPLY, w, w, C, 500);
+        line(r, when, ALWAYS, ADD, w, w, w);
+        line(r, when, ALWAYS, ADD, w, w, C, number % 1000);
+    }
+
+    /** A run at whose end work fields 0 and 1 became x and y, and then op, with these two, was executed for w. */
+    static ReportCompiler calculated(int level, int op, int w, int x, int y) {
+        ReportCompiler r = atLevel(level);
+        load(r, END, 0, x);
+        load(r, END, 1, y);
+        line(r, END, ALWAYS, op, w, 0, 1);
+        r.run();
+        return r;
     }
 
     /** The characters that text shows, until the first that is not there; asks for each once, since calls are bounded. */

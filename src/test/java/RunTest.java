@@ -21,14 +21,8 @@ public final class RunTest {
         check.end();
     }
 
-    private static ReportCompiler atLevel(int level) {
-        ReportCompiler r = new ReportCompiler();
-        r.level(level);
-        return r;
-    }
-
     private static ReportCompiler tellingSections(int level) {
-        ReportCompiler r = atLevel(level);
+        ReportCompiler r = Report.atLevel(level);
         // Written against the order of execution, so that order comes from when alone.
         for (int when = 3; when >= 0; when--) {
             Report.printConstant(r, when, Report.ALWAYS, when);
@@ -59,7 +53,7 @@ public final class RunTest {
     }
 
     private static void breaksSeeTheCardBefore(Check check, int level) {
-        ReportCompiler r = atLevel(level);
+        ReportCompiler r = Report.atLevel(level);
         Report.print(r, Report.KEY_BREAK, Report.FIRST);
         Report.print(r, Report.PART_BREAK, Report.SECOND);
         Report.print(r, Report.END, Report.KEY);
@@ -71,7 +65,7 @@ public final class RunTest {
     }
 
     private static void linesOfOneWhenKeepTheirOrder(Check check, int level) {
-        ReportCompiler r = atLevel(level);
+        ReportCompiler r = Report.atLevel(level);
         int[] whens = {2, 0, 3, 1, 0, 2, 1, 3, 0, 1, 2, 3};
         for (int i = 0; i < whens.length; i++) {
             Report.printConstant(r, whens[i], Report.ALWAYS, i);
@@ -83,7 +77,7 @@ public final class RunTest {
 
     private static void conditions(Check check, int level) {
         for (int on = 0; on <= 3; on++) {
-            ReportCompiler r = atLevel(level);
+            ReportCompiler r = Report.atLevel(level);
             Report.line(r, Report.END, Report.ALWAYS, Report.ON, on);
             for (int condition = 0; condition <= 8; condition++) {
                 Report.printConstant(r, Report.END, condition, condition);
@@ -98,7 +92,7 @@ public final class RunTest {
     }
 
     private static void conditionIsLookedAtInItsMoment(Check check, int level) {
-        ReportCompiler r = atLevel(level);
+        ReportCompiler r = Report.atLevel(level);
         Report.line(r, Report.END, 5, Report.ON, 0);
         Report.line(r, Report.END, 5, Report.ON, 1);
         Report.line(r, Report.END, 1, Report.OFF, 0);
@@ -110,7 +104,7 @@ public final class RunTest {
     }
 
     private static void sources(Check check, int level) {
-        ReportCompiler r = atLevel(level);
+        ReportCompiler r = Report.atLevel(level);
         for (int w = 0; w <= 5; w++) {
             Report.line(r, Report.CARD, Report.ALWAYS, Report.SET, w, Report.C, 0, 100 + w);
         }
@@ -156,7 +150,7 @@ public final class RunTest {
     }
 
     private static void calculated(Check check, int level, int op, int x, int y, int want) {
-        ReportCompiler r = atLevel(level);
+        ReportCompiler r = Report.atLevel(level);
         r.card(0, 0, x, y);
         Report.line(r, Report.CARD, Report.ALWAYS, op, 4, Report.FIRST, Report.SECOND);
         check.due("run()", r.run(), 1);
@@ -169,7 +163,7 @@ public final class RunTest {
     }
 
     private static void divisionByZero(Check check, int level) {
-        ReportCompiler r = atLevel(level);
+        ReportCompiler r = Report.atLevel(level);
         Report.line(r, Report.END, Report.ALWAYS, Report.SET, 2, Report.C, 0, 55);
         Report.line(r, Report.END, Report.ALWAYS, Report.DIVIDE, 2, 2, 0);
         check.due("run()", r.run(), 2);
@@ -191,7 +185,7 @@ public final class RunTest {
         int[] numbers = {-999, -1, 0, 1, 999};
         for (int x : numbers) {
             for (int y : numbers) {
-                ReportCompiler r = atLevel(level);
+                ReportCompiler r = Report.atLevel(level);
                 // All three are on before, so that a comparison that only turns on is seen.
                 Report.line(r, Report.CARD, Report.ALWAYS, Report.ON, 0);
                 Report.line(r, Report.CARD, Report.ALWAYS, Report.ON, 1);
@@ -210,7 +204,7 @@ public final class RunTest {
 
     private static void onAndOff(Check check, int level) {
         for (int w = 0; w <= 3; w++) {
-            ReportCompiler r = atLevel(level);
+            ReportCompiler r = Report.atLevel(level);
             Report.line(r, Report.END, Report.ALWAYS, Report.ON, w);
             r.run();
             for (int i = 0; i <= 3; i++) {
@@ -230,7 +224,7 @@ public final class RunTest {
     private static void print(Check check, int level) {
         int[] numbers = {0, 1, -1, 9, 10, -10, 99, 100, 101, -109, 990, 999, -999, 500};
         for (int number : numbers) {
-            ReportCompiler r = atLevel(level);
+            ReportCompiler r = Report.atLevel(level);
             Report.printConstant(r, Report.END, Report.ALWAYS, number);
             Report.line(r, Report.END, Report.ALWAYS, Report.END_LINE, 5);
             check.due("run()", r.run(), 2);
@@ -240,7 +234,7 @@ public final class RunTest {
         long[] products = {999L * 999, 999L * 100, -999L * 11, 200L * 500, -100L * 100, -999L * 999};
         int[][] factors = {{999, 999}, {999, 100}, {-999, 11}, {200, 500}, {-100, 100}, {-999, 999}};
         for (int n = 0; n < factors.length; n++) {
-            ReportCompiler r = atLevel(level);
+            ReportCompiler r = Report.atLevel(level);
             r.card(0, 0, factors[n][0], factors[n][1]);
             Report.line(r, Report.CARD, Report.ALWAYS, Report.MULTIPLY, 0, Report.FIRST, Report.SECOND);
             Report.print(r, Report.CARD, 0);
@@ -250,7 +244,7 @@ public final class RunTest {
     }
 
     private static void runsBeginAnew(Check check, int level) {
-        ReportCompiler r = atLevel(level);
+        ReportCompiler r = Report.atLevel(level);
         r.card(1, 1, 5, 0);
         Report.line(r, Report.CARD, Report.ALWAYS, Report.ADD, 0, 0, Report.FIRST);
         Report.line(r, Report.CARD, 5, Report.ON, 0);
@@ -270,7 +264,7 @@ public final class RunTest {
     }
 
     private static void greatestRun(Check check, int level) {
-        ReportCompiler r = atLevel(level);
+        ReportCompiler r = Report.atLevel(level);
         for (int n = 0; n < 16; n++) {
             r.card(n, n, n, n);
         }
